@@ -13,13 +13,17 @@ final class Check {
     static final Class<? extends RuntimeException> STATE = IllegalStateException.class;
 
     private static int wrong = 0;
-    private static String promise = "";
+    private static String topic = "";
 
     private Check() {
     }
 
     static void promise(int number, String name) {
-        promise = "promise " + number + ", " + name;
+        about("promise " + number + ", " + name);
+    }
+
+    static void about(String what) {
+        topic = what;
     }
 
     static void due(String call, Object answer, Object want) {
@@ -48,7 +52,7 @@ final class Check {
     static void report(String text) {
         wrong++;
         if (wrong <= 50) {
-            System.out.println(promise + ": " + text);
+            System.out.println(topic + ": " + text);
         }
     }
 
