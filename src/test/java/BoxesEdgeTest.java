@@ -23,6 +23,7 @@ public final class BoxesEdgeTest {
         firstAndFurtherLots();
         landedInASale();
         endWithdraws();
+        fewerLotsThanBefore();
         daysGoByWithSales();
         Check.end();
     }
@@ -141,6 +142,8 @@ public final class BoxesEdgeTest {
             new Run("x becomes x * 1103515245 + 12345, reckoned as ints are").rows("draw " + due[0], "land 5 0 0 5 1 1",
                 "land 2 0 0 5 1 1", "open = 2", "lot 0 0 = " + due[1], "lot 1 0 = " + due[2], "draw 0 = " + due[3]);
         }
+        new Run("x goes on from sale to sale").rows("land 5 0 0 5 1 1", "land 2 0 0 5 1 1", "open", "end", "open",
+            "draw 4711 = -999580867", "end", "land 5 0 0 5 1 1", "open", "draw 1 = 1749903380");
         new Run("x is 1 at first").rows("land 5 0 0 5 1 1", "land 2 0 0 5 1 1", "open = 2", "lot 0 0 = 2",
             "draw 3 = -1770082073", "draw " + LEAST_INT + " = 3", "draw " + GREATEST_INT + " = " + LEAST_INT,
             "draw 0 = " + GREATEST_INT);
@@ -225,9 +228,9 @@ public final class BoxesEdgeTest {
     private static void carriedAndLandedAlike() {
         new Run("LANDED and CARRIED ones that are alike are in one lot").rows("land 1 0 0 5 1 1", "land 1 0 0 4 2 2",
             "open = 2", "end = 2", "land 1 0 0 4 4 4", "land 1 0 0 3 8 8", "land 1 0 0 5 16 16", "open = 3",
-            "told 4 4 = 0", "told 0 4 = 1", "told 2 4 = 1", "told 1 4 = 2", "told 3 4 = 2", "lot 0 5 = 1", "lot 1 5 = 2",
-            "lot 2 5 = 2", "lot 0 3 = 5", "lot 1 3 = 4", "lot 2 3 = 3", "end = 5", "told 0 0 = 7", "told 2 0 = 6",
-            "told 1 0 = 7", "told 3 0 = 6", "told 4 0 = 6", "told 0 1 = 4", "told 2 1 = 3");
+            "told 4 4 = 0", "told 0 4 = 1", "told 2 4 = 1", "told 1 4 = 2", "told 3 4 = 2", "lot 0 5 = 1",
+            "lot 1 5 = 2", "lot 2 5 = 2", "lot 0 3 = 5", "lot 1 3 = 4", "lot 2 3 = 3", "end = 5", "told 0 0 = 7",
+            "told 2 0 = 6", "told 1 0 = 7", "told 3 0 = 6", "told 4 0 = 6", "told 0 1 = 4", "told 2 1 = 3");
     }
 
     private static void hallsOfKinds() {
@@ -285,6 +288,15 @@ public final class BoxesEdgeTest {
             "hall 1 2 = 0", "hall 1 4 = 0", "pass 5", "hall 0 2 = 0", "hall 1 2 = 0", "hall 1 0 = 0", "kilos 5 = 4");
         new Run("end: by rising lots").rows("land 1 0 0 5 10 10", "land 1 0 1 5 5 5", "land 1 0 1 5 6 6", "aid 1 16 0",
             "open = 2", "end = 3", "told 0 0 = 5", "told 1 0 = 5", "told 2 0 = 6", "ship 1 1 = 1", "ship 1 0 = 300");
+    }
+
+    private static void fewerLotsThanBefore() {
+        new Run("numbered from 0 in each sale, fewer than in the one before").rows("aid 0 3 0", "land 0 0 0 5 1 1",
+            "land 0 0 1 5 1 1", "land 0 0 2 5 1 1", "land 0 3 2 5 1 1", "open = 4", "hall 0 4 = 4", "end = 4",
+            "told 2 0 = 5", "told 3 0 = 6", "open = 1", "told 3 4 = 0", "told 0 4 = -1", "lot 1 0 = Index",
+            "lot 0 1 = 3", "hall 0 4 = 1", "pass 90", "hall 0 0 = 0", "hall 0 1 = -1", "hall 0 4 = 0", "pass 5",
+            "hall 0 0 = 0", "end = 0", "land 0 2 0 5 1 1", "open = 1", "pass 200", "hall 0 0 = 0", "hall 2 0 = 0",
+            "told 4 0 = 6", "end = 0");
     }
 
     private static void daysGoByWithSales() {

@@ -150,6 +150,8 @@ public final class ClocksEdgeTest {
             run.times(delay - 1, "pass 1").rows("hall 0 0 = 2", "hall 0 3 = -1", "pass 1", "hall 0 0 = 3",
                 "hall 0 3 = 1");
         }
+        lot("the greatest delay of all buyers, though its line is not up", 1).rows("buyer 5 0 3", "line 5 0",
+            "press 0 0", "pass 3", "hall 0 0 = 2", "pass 1", "hall 0 0 = 3");
         lot("the greatest delay is then, later ones do not matter", 1).rows("press 0 0", "pass 1", "hall 0 0 = 2",
             "buyer 5 0 9", "pass 1", "hall 0 0 = 3");
         lot("the greatest delay is then, earlier ones do not matter", 1).rows("buyer 5 0 9", "press 0 0", "buyer 5 0 3",
@@ -186,6 +188,9 @@ public final class ClocksEdgeTest {
             "hall 0 0 = 1", "hall 0 2 = 990", "pass 1", "hall 0 0 = 2");
         lot("standing counts from the tick in which it is heard", 1).rows("buyer 4 0 2", "press 0 0", "power 0 0",
             "pass 7", "power 0 1", "pass 1", "hall 0 0 = 2", "pass 1", "hall 0 0 = 2", "pass 1", "hall 0 0 = 3");
+        new Run("the first lot is at the clock from the opening on, without power as well").rows("power 0 0",
+            "land 0 0 0 5 1 1", "open", "hall 0 0 = 1", "hall 0 1 = 0", "hall 0 2 = 1000", "hall 0 4 = 1", "pass 3",
+            "press 0 0 = State", "power 0 1", "press 0 0 = 1000", "pass 1", "hall 0 0 = 2");
         lot("the price does not fall without power").rows("power 0 0", "pass 500", "hall 0 2 = 1000", "hall 0 0 = 1",
             "power 0 1", "pass 1", "hall 0 2 = 990");
         lot("a press stays so without a line", 2).rows("press 0 0", "line 0 0", "pass 4", "hall 0 3 = 0",
@@ -212,6 +217,10 @@ public final class ClocksEdgeTest {
             "hall 0 0 = 1", "hall 0 3 = -1");
         lot("at the price that the press kept", 2).rows("buyer 0 9999 2", "press 0 0 = 1000", "pass 1",
             "hall 0 2 = 990", "pass 3", "hall 0 0 = 1", "hall 0 2 = 990", "press 0 0 = 990", "pass 4", "hall 0 3 = 0");
+        new Run("a guarantee left for its kilos as weighed").rows("buyer 0 10000 1", "land 0 0 0 5 10 100",
+            "land 0 0 0 5 11 1", "open", "press 0 0", "pass 2", "hall 0 3 = 0", "take 0 0 1 = 10000", "buyer 0 20999 1",
+            "press 0 0", "pass 2", "hall 0 0 = 1", "buyer 0 21000 1", "press 0 0", "pass 5", "told 1 0 = 3",
+            "account 0 1 = 21000");
         lot("what is left is that less what the buyer owes", 1).rows("buyer 0 19999 1", "press 0 0", "pass 2",
             "take 0 0 1 = 10000", "press 0 0 = 1000", "pass 2", "hall 0 0 = 1", "pay 0 1 = 1", "press 0 0 = 1000",
             "pass 2", "hall 0 3 = 0", "take 0 0 1 = 10000", "account 0 1 = 19999");
@@ -225,6 +234,12 @@ public final class ClocksEdgeTest {
     }
 
     private static void noneCounts() {
+        for (int hall = 0; hall < 3; hall++) {
+            new Run("if none counts, in the hall " + hall).rows("buyer 7 100000 9", "land 0 0 0 5 10 10",
+                "land 0 1 0 5 10 10", "land 0 2 0 5 10 10", "open", "press 0 " + hall, "pass 1",
+                "hall " + hall + " 0 = 2", "pass 9", "hall " + hall + " 0 = 1", "hall " + hall + " 3 = -1",
+                "hall " + hall + " 2 = 1000");
+        }
         lot("if none counts, the clock is FALLING again, at the price that it had").rows("pass 4", "press 0 0 = 960",
             "pass 1", "hall 0 0 = 2", "pass 1", "hall 0 0 = 1", "hall 0 2 = 960", "pass 1", "hall 0 2 = 950",
             "hall 0 0 = 1");
@@ -234,6 +249,16 @@ public final class ClocksEdgeTest {
     }
 
     private static void roundsEnd() {
+        for (int hall = 0; hall < 3; hall++) {
+            int next = (hall + 1) % 3;
+            int last = (hall + 2) % 3;
+            new Run("a round that ends in the hall " + hall + " leaves the presses in the others").rows(
+                "land 0 0 0 5 1 1", "land 0 1 0 5 1 1", "land 0 2 0 5 1 1", "open", "buyer 0 0 4", "buyer 7 0 4",
+                "press 0 " + next, "press 7 " + last, "buyer 0 0 1", "buyer 7 0 1", "press 4 " + hall, "pass 2",
+                "hall " + hall + " 0 = 1", "press 0 " + next + " = State", "press 7 " + last + " = State", "pass 1",
+                "hall " + next + " 0 = 1", "hall " + last + " 0 = 1", "pass 1", "hall " + next + " 0 = 2",
+                "hall " + last + " 0 = 2", "hall " + hall + " 0 = 1");
+        }
         lot("presses that have not come are lost when somebody has won", 1, 9).rows("press 1 0", "buyer 1 100000000 1",
             "press 0 0", "pass 2", "hall 0 3 = 0", "take 0 0 1", "pass 10", "hall 0 0 = 1", "hall 0 2 = 900");
         new Run("presses that have not come are lost when the lot is done with").rows("buyer 0 100000 9",

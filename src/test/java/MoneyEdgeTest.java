@@ -8,6 +8,7 @@ public final class MoneyEdgeTest {
         claimOfWhatItLacks();
         claimInTime();
         claimOnce();
+        claimOfSeveralBoats();
         claimBelowNothing();
         payAtMost();
         settleDues();
@@ -117,6 +118,15 @@ public final class MoneyEdgeTest {
             "claim 0 1 = State", "account 0 1 = 15000", "ship 0 0 = 15000");
         sold("for a box that it bought", 1000, "10 5").rows("land 0 0 0 5 10 5", "claim 1 0 = State",
             "claim 7 0 = State", "claim 0 1 = State", "claim 0 2 = Index", "claim 0 0 = 5000");
+    }
+
+    private static void claimOfSeveralBoats() {
+        new Run("the account of the boat, and what the buyer owes").rows("buyer 3 100000 1", "buyer 6 100000 1",
+            "aid 7 0 1", "land 5 0 0 5 10 5", "land 7 0 0 5 20 12", "open", "press 3 0", "pass 2", "take 3 0 1 = 20000",
+            "press 6 0", "pass 2", "take 6 0 1 = 10000", "ship 7 0 = 20000", "ship 5 0 = 10000", "claim 3 1 = 8000",
+            "ship 7 0 = 12000", "ship 5 0 = 10000", "ship 0 0 = 0", "account 3 1 = 12000", "account 6 1 = 10000",
+            "claim 3 0 = State", "claim 6 0 = 5000", "ship 5 0 = 5000", "account 6 1 = 5000", "account 3 1 = 12000",
+            "settle 5 0 100 = 4850", "ship 7 0 = 12000", "pay 6 1 = 1", "account 3 1 = 12000", "ship 7 0 = 12000");
     }
 
     private static void claimBelowNothing() {

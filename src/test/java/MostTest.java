@@ -7,6 +7,7 @@ public final class MostTest {
         allBoxesInOneLot();
         allBoxesInTheirOwnLots();
         allBoxesSold();
+        allBoxesTwice();
         theLastBoxInASale();
         allBoxesWithdrawn();
         muchMoney();
@@ -57,6 +58,14 @@ public final class MostTest {
         }
         run.rows("hall 0 0 = 0", "hall 0 1 = -1", "account 0 1 = 540000", "account 0 2 = 54", "end = 0",
             "open = State");
+    }
+
+    private static void allBoxesTwice() {
+        Run run = new Run("150 boxes of two boats, in two sales").rows("quota 5 0 100000");
+        run.times(75, "land 5 0 0 2 10 1").times(75, "land 3 0 0 2 10 1").rows("open = 2", "draw 1 = -1770082073",
+            "lot 0 0 = 3", "lot 0 5 = 75", "lot 1 0 = 5", "lot 1 5 = 75", "told 149 4 = 0", "told 0 4 = 1", "end = 150",
+            "told 149 0 = 6", "told 149 1 = 1", "open = 2", "draw 1 = -1770082073", "lot 1 5 = 75", "told 74 4 = 1",
+            "end = 150").times(150, "told # 0 = 7").rows("kilos 3 = 1500", "open = State");
     }
 
     private static void theLastBoxInASale() {
