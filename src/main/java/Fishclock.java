@@ -543,7 +543,8 @@ public final class Fishclock {
             boats.account.add(boat, kilos * MEAL_CENTS);
             boxes.move(box, MEAL);
         } else if (boxes.canBeCarried(box)) {
-            boxes.carry(box);
+            boxes.move(box, CARRIED);
+            boxes.age(box);
         } else {
             boxes.move(box, ROTTEN);
         }
@@ -785,8 +786,7 @@ public final class Fishclock {
             return wasCarried.at(box) == 0 && freshOf(rank.at(box)) > 1;
         }
 
-        void carry(int box) {
-            move(box, CARRIED);
+        void age(int box) {
             wasCarried.put(box, 1);
             rank.add(box, 1); // behind a rank stands the one that is less fresh by 1
         }

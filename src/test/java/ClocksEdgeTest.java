@@ -336,5 +336,13 @@ public final class ClocksEdgeTest {
             "kind 2 1000 100 0", "land 0 0 0 5 10 10", "land 0 2 0 5 10 10", "open", "press 0 0", "press 0 2", "pass 2",
             "hall 0 3 = 0", "hall 2 3 = 0", "pass 3", "told 1 0 = 3", "told 0 0 = 2", "hall 2 0 = 1",
             "hall 2 2 = 1000");
+        new Run("in each hall by rising numbers: got in the hall 0, it does not count in the hall 1").rows(
+            "buyer 0 10000 1", "land 0 0 0 5 10 10", "land 0 1 0 5 10 10", "open", "press 0 0 = 1000", "pass 3",
+            "press 0 1 = 970", "pass 1", "hall 1 0 = 2", "pass 1", "told 0 0 = 3", "hall 1 0 = 1", "hall 1 2 = 970",
+            "hall 1 3 = -1", "told 1 0 = 2");
+        new Run("in each hall by rising numbers: it wins in the hall 0 ahead of what it gets in the hall 1").rows(
+            "buyer 0 10000 1", "land 0 0 0 5 10 10", "land 0 1 0 5 10 10", "open", "press 0 1 = 1000", "pass 3",
+            "press 0 0 = 970", "pass 2", "told 1 0 = 3", "hall 0 0 = 3", "hall 0 3 = 0", "take 0 0 1 = State", "pass 3",
+            "hall 0 0 = 1", "hall 0 2 = 970", "told 0 0 = 2");
     }
 }

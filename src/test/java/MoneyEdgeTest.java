@@ -74,6 +74,8 @@ public final class MoneyEdgeTest {
             "ship 2 1 = 0", "ship 2 0 = 300");
         new Run("the aid of another boat").rows("aid 3 100 0", "land 2 0 0 5 10 10", "open", "end", "told 0 0 = 6",
             "ship 3 1 = 100");
+        new Run("aid that is told while the lot is at the clock").rows("land 2 0 0 5 10 10", "open", "pass 90",
+            "aid 2 10 1 = 0", "pass 1", "told 0 0 = 5", "ship 2 1 = 0", "ship 2 0 = 200");
         new Run("aid for one that was CARRIED before").rows("land 2 0 0 5 10 10", "open", "end", "told 0 0 = 6",
             "aid 2 10 0", "open", "end", "told 0 0 = 5", "told 0 1 = 4");
     }
